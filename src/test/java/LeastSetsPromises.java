@@ -85,6 +85,16 @@ public final class LeastSetsPromises {
         return x;
     }
 
+    /** Goal 0 by fact 1, that by fact 2, and so on to fact 13: each needs one that is behind it. */
+    private static LeastSets backwardChain() {
+        LeastSets x = new LeastSets();
+        for (int i = 0; i < 13; i++) {
+            x.axiom(bits(i + 1), i);
+        }
+        x.axiom(0, 13);
+        return x;
+    }
+
     private static void promise1NewObject() {
         LeastSets x = new LeastSets();
         due("1 axioms()", x.axioms(), 0);
@@ -240,6 +250,8 @@ public final class LeastSetsPromises {
         due("7 a ring holds nothing", back.follow(7), 0);
         back.axiom(0, 5);
         due("7 against the numbers", back.follow(11), bits(0, 5, 23));
+        due("7 fourteen steps", backwardChain().follow(-1), (1 << 14) - 1);
+        due("7 fourteen steps but one", backwardChain().follow(~(1 << 5)), 0x3FC0);
     }
 
     private static void promise8Steps() {
@@ -287,6 +299,7 @@ public final class LeastSetsPromises {
         own.axiom(bits(0), 0);
         dueCauses("9 a fact does not give itself", own);
         dueCauses("9 product", threeByThree(), productOfThrees());
+        dueCauses("9 chain", backwardChain(), (1 << 14) - 1);
     }
 
     /** Facts 1 .. 4 by three axioms each (i, i + 1, i + 2), and the goal by all four (12). */
@@ -311,6 +324,8 @@ public final class LeastSetsPromises {
     private static void promises10And12Cures() {
         dueCures("10 four ways", fourWays(), 35, 38, 41, 60);
         dueCures("10 three by three", threeByThree(), 4096, 7, 56, 448, 3584);
+        dueCures("10 chain", backwardChain(), 1, 2, 4, 8, 16, 32, 64, 128, 256, 512, 1024, 2048,
+            4096, 8192);
         LeastSets x = sevenPairs();
         due("10 pairs", x.cures(), 128);
         due("12 first", x.cure(0), 127);
