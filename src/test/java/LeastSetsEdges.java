@@ -7,10 +7,11 @@ import java.util.Map;
 import java.util.TreeMap;
 
 /**
- * The boundary cases of the document: a test for each sentence that names one, its promise's number
- * in its name and the document's words above it. A sentence of the 'Terms' or of 'What it is' is
- * tested under the promise through which it is seen. Every method whose name begins with "promise"
- * is a test, and is run by itself, so that a broken one hides no other.
+ * The boundary cases of the document: a test for each sentence that names one, with its promise's
+ * number in its name; above it stand the document's words (between quotes) or what edge of them is
+ * meant. A sentence of the 'Terms' or of 'What it is' is tested under the promise through which it
+ * is seen. Every method whose name begins with "promise" is a test, and is run by itself, so that a
+ * broken one hides no other.
  */
 public final class LeastSetsEdges {
     private static final int BAD = -1;
@@ -395,6 +396,7 @@ public final class LeastSetsEdges {
         due("axioms()", full.axioms(), 14);
     }
 
+    // "BAD" is an answer in the place of a change
     static void promise03RefusedChangesNothing() {
         LeastSets x = twoWays();
         String before = told(x);
@@ -437,6 +439,7 @@ public final class LeastSetsEdges {
         due("new: fix(0, true)", new LeastSets().fix(0, true), BAD);
     }
 
+    // "BAD" is an answer in the place of a change
     static void promise04RefusedChangesNothing() {
         LeastSets x = twoWays();
         x.fix(1, true);
@@ -494,6 +497,7 @@ public final class LeastSetsEdges {
         due("new: weight(0, 1)", new LeastSets().weight(0, 1), BAD);
     }
 
+    // "BAD" is an answer in the place of a change
     static void promise05RefusedChangesNothing() {
         LeastSets x = twoWays();
         x.weight(0, 3);
@@ -549,6 +553,7 @@ public final class LeastSetsEdges {
         }
     }
 
+    // "BAD" is an answer in the place of a change
     static void promise06RefusedChangesNothing() {
         LeastSets x = twoWays();
         x.goal(2);
@@ -1066,6 +1071,7 @@ public final class LeastSetsEdges {
         due("times(4, 2)", x.times(4, 2), BAD);
     }
 
+    // "BAD" is told, and nothing is changed
     static void promise14RefusedChangesNothing() {
         LeastSets x = twoWays();
         String before = told(x);
@@ -1283,6 +1289,7 @@ public final class LeastSetsEdges {
         dueThrow(x, 2);
     }
 
+    // "throws": and nothing is changed
     static void promise18RefusedChangesNothing() {
         LeastSets x = twoWays();
         String before = told(x);
